@@ -12,6 +12,8 @@ public final class TimberHouse {
     private static final int SPACE = 32;
     private static final int FACT_MOST = 1000000;
     private static final int BOOK_MOST = 1000000000;
+    private static final int GREATEST = 2147483647;
+    private static final long ENDLESS = 9000000000000000000L;
 
     private final Saw saw = new Saw();
     private final Rips rips = new Rips();
@@ -316,7 +318,7 @@ public final class TimberHouse {
         }
 
         boolean isDigit(int i) {
-            return within(at(i), '0', '9');
+            return at(i) >= '0' && at(i) <= '9';
         }
 
         int behindSpaces(int from) {
@@ -329,7 +331,7 @@ public final class TimberHouse {
 
         int behindDigits(int from, int most) {
             int i = from;
-            while (i < from + most && isDigit(i)) {
+            while (i < from + most && at(i) >= '0' && at(i) <= '9') {
                 i++;
             }
             return i;
@@ -759,10 +761,10 @@ public final class TimberHouse {
                 tables[level] = new long[RECTANGLES];
             }
             tables[TOP] = new long[MOST_LONG + 1];
-            begin(100, 240, 10);
+            anew(100, 240, 10);
         }
 
-        private void begin(int width, int length, int toStep) {
+        void anew(int width, int length, int toStep) {
             step = nearest(toStep, 1, REACH);
             longSteps = (int) Math.min(MOST_LONG, down(nearest(length, 1, REACH), step));
             wideSteps = (int) Math.min(MOST_WIDE, down(nearest(width, 1, REACH), step));
@@ -775,10 +777,6 @@ public final class TimberHouse {
             way = 0;
             stages = 2;
             planCount = 0;
-        }
-
-        void anew(int width, int length, int toStep) {
-            begin(width, length, toStep);
         }
 
         long call(int n, int a, int b, int c, int d, int e, int f) {
@@ -910,7 +908,7 @@ public final class TimberHouse {
             needNumber(within(rounds, 1, 6));
             Arrays.fill(priced[0], 0);
             fit();
-            bound = Long.MAX_VALUE;
+            bound = ENDLESS;
             int keptCount = NONE;
             long keptWorth = NONE;
             int r = 0;
@@ -1107,12 +1105,8 @@ public final class TimberHouse {
             return left < (x + w) * step && right > x * step && above < (y + h) * step && below > y * step;
         }
 
-        private static int span(int from, int to) {
-            return to * (to - 1) / 2 + from;
-        }
-
         private static int rectangle(int x0, int x1, int y0, int y1) {
-            return span(x0, x1) * Y_SPANS + span(y0, y1);
+            return (x1 * (x1 - 1) / 2 + x0) * Y_SPANS + y1 * (y1 - 1) / 2 + y0;
         }
 
         // A segment from p to q on the way that is cut, from oa to ob on the other one.
@@ -1167,14 +1161,15 @@ public final class TimberHouse {
             layTop();
         }
 
-        private long key(int piece, int length) {
-            return ((long) pieces[WORTH][piece] * length - priced[0][piece]) * SHARE - 1;
+        private long pricedWorth(int piece, int length) {
+            return (long) pieces[WORTH][piece] * length - priced[0][piece];
         }
 
         private int bestPiece(int fitting, int length) {
             int best = NONE;
             for (int piece = 0; piece < pieceCount; piece++) {
-                if ((fitting >> piece & 1) == 1 && (best == NONE || key(piece, length) > key(best, length))) {
+                boolean fits = (fitting >> piece & 1) == 1;
+                if (fits && (best == NONE || pricedWorth(piece, length) > pricedWorth(best, length))) {
                     best = piece;
                 }
             }
@@ -1184,10 +1179,10 @@ public final class TimberHouse {
         private void solveNoStage() {
             for (int x1 = 1; x1 <= longSteps; x1++) {
                 for (int x0 = 0; x0 < x1; x0++) {
-                    for (int y = 0; y < Y_SPANS; y++) {
-                        int at = span(x0, x1) * Y_SPANS + y;
-                        int piece = bestPiece(fits[at], x1 - x0);
-                        tables[0][at] = piece == NONE ? 0 : key(piece, x1 - x0);
+                    int first = rectangle(x0, x1, 0, 1);
+                    for (int at = first; at < first + Y_SPANS; at++) {
+                        int piece = fits[at] == 0 ? NONE : bestPiece(fits[at], x1 - x0);
+                        tables[0][at] = piece == NONE ? 0 : pricedWorth(piece, x1 - x0) * SHARE - 1;
                     }
                 }
             }
@@ -1206,9 +1201,29 @@ public final class TimberHouse {
             for (int end = firstEnd; end <= size; end++) {
                 for (int ob = 1; ob <= others; ob++) {
                     for (int oa = 0; oa < ob; oa++) {
-                        solveLine(level, ripped, end, oa, ob);
+                        if (level == 1 && !ripped && !hasWidth(ob - oa)) {
+                            clearLine(end, oa, ob);
+                        } else {
+                            solveLine(level, ripped, end, oa, ob);
+                        }
                     }
                 }
+            }
+        }
+
+        // The last stage has no piece where no PIECE is as wide; looking for some is most of the work.
+        private boolean hasWidth(int steps) {
+            for (int piece = 0; piece < pieceCount; piece++) {
+                if (pieces[WIDTH][piece] == steps) {
+                    return true;
+                }
+            }
+            return false;
+        }
+
+        private void clearLine(int end, int y0, int y1) {
+            for (int p = 0; p < end; p++) {
+                tables[1][rectangle(p, end, y0, y1)] = 0;
             }
         }
 
@@ -1260,18 +1275,10 @@ public final class TimberHouse {
                 for (int q = end; q > p && p >= next; q--) {
                     long key = topKey(p, q);
                     if (key > 0 && key + tables[TOP][q] == tables[TOP][p]) {
-                        laySegment(stages - 1, ripped, p, q, 0, ripped ? longSteps : wideSteps);
+                        lay(stages - 1, ripped ? 0 : p, ripped ? longSteps : q, ripped ? p : 0, ripped ? q : wideSteps);
                         next = q;
                     }
                 }
-            }
-        }
-
-        private void laySegment(int level, boolean ripped, int p, int q, int oa, int ob) {
-            if (ripped) {
-                lay(level, oa, ob, p, q);
-            } else {
-                lay(level, p, q, oa, ob);
             }
         }
 
@@ -1292,7 +1299,7 @@ public final class TimberHouse {
                     long key = tables[level - 1][segment(ripped, p, q, oa, ob)];
                     long behind = q < end ? tables[level][segment(ripped, q, end, oa, ob)] : 0;
                     if (key > 0 && key + behind == all) {
-                        laySegment(level - 1, ripped, p, q, oa, ob);
+                        lay(level - 1, ripped ? oa : p, ripped ? ob : q, ripped ? p : oa, ripped ? q : ob);
                         next = q;
                     }
                 }
@@ -1392,6 +1399,8 @@ public final class TimberHouse {
         private static final int AT = 2;
         private static final int JOINED = 3;
         private static final int CURE = 4;
+        private static final int LAST_BAD = 2;
+        private static final int STOPS = 3;
 
         private int step;
         private int loss;
@@ -1412,9 +1421,8 @@ public final class TimberHouse {
         private final int[][] joints = new int[3][PIECES];
         private int jointCount;
         private int waste;
-        private final int[] tests = new int[2];
-        private final int[] stops = new int[3];
-        private boolean lastBad;
+        // How many TESTS were bad, good, whether the latest was bad, and where each RULE stopped the line.
+        private final int[] tests = new int[6];
 
         Fingers() {
             anew(10, 10);
@@ -1429,8 +1437,6 @@ public final class TimberHouse {
             alone = 0;
             fresh = false;
             Arrays.fill(tests, 0);
-            Arrays.fill(stops, 0);
-            lastBad = false;
         }
 
         long call(int n, int a, int b) {
@@ -1523,7 +1529,7 @@ public final class TimberHouse {
                 order[i] = i;
             }
             solve(pieceCount - 1, first);
-            long best = Long.MIN_VALUE;
+            long best = -ENDLESS;
             boolean more = true;
             for (int i = 0; i < MOST_ORDERS && more; i++) {
                 solve(first - 1, 0);
@@ -1589,15 +1595,15 @@ public final class TimberHouse {
             tests[bad ? 0 : 1]++;
             int count = tests[0] + tests[1];
             stopBy(0, bad, count);
-            stopBy(1, bad && lastBad, count);
-            stopBy(2, count >= 10 && 10 * tests[0] > count, count);
-            lastBad = bad;
+            stopBy(1, bad && tests[LAST_BAD] == 1, count);
+            stopBy(2, count >= 10 && tests[0] > count / 10, count);
+            tests[LAST_BAD] = truth(bad);
             return count;
         }
 
         private void stopBy(int rule, boolean broken, int count) {
-            if (broken && stops[rule] == 0) {
-                stops[rule] = count;
+            if (broken && tests[STOPS + rule] == 0) {
+                tests[STOPS + rule] = count;
             }
         }
 
@@ -1608,7 +1614,7 @@ public final class TimberHouse {
 
         private int stop(int rule) {
             needThing(within(rule, 0, 2));
-            return stops[rule];
+            return tests[STOPS + rule];
         }
 
         boolean wasRun() {
@@ -1627,14 +1633,11 @@ public final class TimberHouse {
             return pieces[0][order[place]];
         }
 
-        private int groupOf(int place) {
-            return pieces[1][order[place]];
-        }
-
         private boolean joins(int place, int have) {
-            int one = groupOf(place - 1);
-            int other = groupOf(place);
-            if (lengthOf(place) <= loss || one != other && ((alone >> one | alone >> other) & 1) == 1) {
+            int piece = order[place];
+            int one = pieces[1][order[place - 1]];
+            int other = pieces[1][piece];
+            if (pieces[0][piece] <= loss || one != other && ((alone >> one | alone >> other) & 1) == 1) {
                 return false;
             }
             long at = (long) have * step;
@@ -2110,8 +2113,8 @@ public final class TimberHouse {
         private void reach(int piece, int tool) {
             int length = lengths[piece];
             int nose = tools[tool];
-            Arrays.fill(lifts, Integer.MIN_VALUE);
-            Arrays.fill(reached, Integer.MAX_VALUE);
+            Arrays.fill(lifts, -GREATEST);
+            Arrays.fill(reached, GREATEST);
             for (int d = -nose; d <= nose; d++) {
                 int high = root(nose * nose - d * d);
                 for (int x = Math.max(0, -d); x <= Math.min(length, length - d); x++) {
@@ -2214,7 +2217,7 @@ public final class TimberHouse {
             int count = 0;
             int at = 0;
             boolean more = true;
-            while (more && at >= 0) {
+            while (more && at >= 0 && count < STATEMENTS) {
                 at = statement(count, at);
                 count++;
                 more = at >= 0 && at < text.length();
@@ -2235,7 +2238,7 @@ public final class TimberHouse {
         // The place behind a statement; of a fault - 1 less its place. So in all that follows of a text.
         private int statement(int count, int from) {
             int kind = kindOf(text.at(from));
-            if (count >= STATEMENTS || kind == NONE) {
+            if (kind == NONE) {
                 return -1 - from;
             }
             if (text.at(from + 1) != SPACE) {
@@ -2978,7 +2981,9 @@ public final class TimberHouse {
 
         private static void fillBox(int[] cells, int x0, int y0, int x1, int y1, int v) {
             for (int y = y0; y <= y1; y++) {
-                Arrays.fill(cells, y * ROOM + x0, y * ROOM + x1 + 1, v);
+                for (int x = x0; x <= x1; x++) {
+                    cells[y * ROOM + x] = v;
+                }
             }
         }
 
@@ -3460,7 +3465,8 @@ public final class TimberHouse {
             about[BOUND] = rest;
             about[NODES] = nodes - nodesLeft;
             planJobs = jobCount;
-            plan(BEST);
+            about[COST] = placeOrder(BEST, planJobs);
+            keepPlaced(BEST);
             return open;
         }
 
@@ -3482,7 +3488,8 @@ public final class TimberHouse {
                     swap(a, b);
                 }
             }
-            plan(TRIED);
+            about[COST] = placeOrder(TRIED, planJobs);
+            keepPlaced(TRIED);
             return less;
         }
 
@@ -3538,7 +3545,8 @@ public final class TimberHouse {
             int count = 0;
             for (int one = 0; one < jobCount; one++) {
                 for (int other = one + 1; other < jobCount; other++) {
-                    if (clashes(one, other)) {
+                    boolean mayBoth = costAlone(one) == 0 && costAlone(other) == 0;
+                    if (mayBoth && costOfTwo(one, other) > 0 && costOfTwo(other, one) > 0) {
                         if (count == k) {
                             return 8 * one + other;
                         }
@@ -3547,11 +3555,6 @@ public final class TimberHouse {
                 }
             }
             return NONE;
-        }
-
-        private boolean clashes(int one, int other) {
-            return costAlone(one) == 0 && costAlone(other) == 0
-                && costOfTwo(one, other) > 0 && costOfTwo(other, one) > 0;
         }
 
         private int costOfTwo(int first, int second) {
@@ -3716,7 +3719,7 @@ public final class TimberHouse {
 
         // Where an OUT span ends that shares an hour with begin .. end; begin itself if none does.
         private int behindOuts(int machine, int begin, int end) {
-            if (!within(machine, 0, machineCount - 1)) {
+            if (machine < 0 || machine >= machineCount) {
                 return begin;
             }
             for (int i = machine * SPANS; i < machine * SPANS + outCounts[machine]; i++) {
@@ -3782,8 +3785,8 @@ public final class TimberHouse {
             return true;
         }
 
-        private void plan(int which) {
-            about[COST] = placeOrder(which, planJobs);
+        // What has just been placed is the PLAN.
+        private void keepPlaced(int which) {
             about[CHANGED] = 0;
             for (int step = 0; step < stepCount; step++) {
                 boolean same = step < planSteps && places[BEGIN][step] == places[PLAN_BEGIN][step]
@@ -3970,13 +3973,14 @@ public final class TimberHouse {
         private long changed(int letter, int above, int below) {
             needThing(isFact(letter));
             needNumber(within(below, 1, 10000) && within(above, -FACT_MOST, FACT_MOST));
-            long before = cents();
+            reckon();
+            long before = roundedTotal();
             int oldAbove = facts[0][letter - 'a'];
             int oldBelow = facts[1][letter - 'a'];
             setFact(letter, above, below);
-            long behind = cents();
+            reckon();
             setFact(letter, oldAbove, oldBelow);
-            return behind - before;
+            return roundedTotal() - before;
         }
 
         private int currency(int day, int above, int below) {
@@ -3993,7 +3997,8 @@ public final class TimberHouse {
 
         private long centsAt(int day) {
             needNumber(within(day, 0, MOST_DAY));
-            return atDay(cents(), day);
+            reckon();
+            return atDay(roundedTotal(), day);
         }
 
         private long atDay(long cents, int day) {
@@ -4007,7 +4012,7 @@ public final class TimberHouse {
         private int offer(int until) {
             needNumber(within(until, 0, MOST_DAY));
             needState(offerCount < ROWS && reckon() == 0);
-            offers[offerCount] = cents();
+            offers[offerCount] = roundedTotal();
             lastDays[offerCount] = until;
             offerCount++;
             return offerCount - 1;
@@ -4075,6 +4080,10 @@ public final class TimberHouse {
 
         private long cents() {
             reckon();
+            return roundedTotal();
+        }
+
+        private long roundedTotal() {
             return down(total[0] * 200 + total[1], 2 * total[1]);
         }
 
@@ -4102,25 +4111,33 @@ public final class TimberHouse {
             return open;
         }
 
+        // What a sign comes to is laid on the stack; answers the reason if it is OPEN, else 0.
         private int lay(int sign) {
             int letter = -sign;
+            int reason = 0;
             if (sign >= 0) {
-                return push(sign, 1);
-            }
-            if (letter == 'r') {
-                return height < 1 ? TOO_GREAT : round();
-            }
-            if (isFact(letter)) {
+                reason = tooGreat(sign, 1);
+            } else if (letter == 'r') {
+                reason = height < 1 ? TOO_GREAT : round();
+            } else if (isFact(letter)) {
                 int below = facts[1][letter - 'a'];
-                return below < 1 ? NOT_TOLD : push(facts[0][letter - 'a'], below);
+                reason = below < 1 ? NOT_TOLD : tooGreat(facts[0][letter - 'a'], below);
+            } else {
+                reason = height < 2 ? TOO_GREAT : ofTwo(letter);
             }
-            return height < 2 ? TOO_GREAT : ofTwo(letter);
+            if (reason != 0 || height >= STACK) {
+                return reason != 0 ? reason : TOO_GREAT;
+            }
+            stack[0][height] = value[0];
+            stack[1][height] = value[1];
+            height++;
+            return 0;
         }
 
         private int round() {
             height--;
             long below = stack[1][height];
-            return push(down(stack[0][height] * 200 + below, 2 * below), 100);
+            return tooGreat(down(stack[0][height] * 200 + below, 2 * below), 100);
         }
 
         private int ofTwo(int sign) {
@@ -4130,43 +4147,35 @@ public final class TimberHouse {
             long c = stack[0][height + 1];
             long d = stack[1][height + 1];
             switch (sign) {
-                case '+': return push(a * d + c * b, b * d);
-                case '-': return push(a * d - c * b, b * d);
-                case '*': return push(a * c, b * d);
-                case '/': return c == 0 ? BY_ZERO : push(c < 0 ? -a * d : a * d, c < 0 ? -b * c : b * c);
-                case '<': return a * d <= c * b ? push(a, b) : push(c, d);
-                default: return a * d >= c * b ? push(a, b) : push(c, d);
+                case '+': return tooGreat(a * d + c * b, b * d);
+                case '-': return tooGreat(a * d - c * b, b * d);
+                case '*': return tooGreat(a * c, b * d);
+                case '/': return c == 0 ? BY_ZERO : tooGreat(c < 0 ? -a * d : a * d, c < 0 ? -b * c : b * c);
+                case '<': return a * d <= c * b ? tooGreat(a, b) : tooGreat(c, d);
+                default: return a * d >= c * b ? tooGreat(a, b) : tooGreat(c, d);
             }
         }
 
-        private int push(long above, long below) {
-            if (!isFraction(above, below) || height >= STACK) {
-                return TOO_GREAT;
-            }
-            stack[0][height] = value[0];
-            stack[1][height] = value[1];
-            height++;
-            return 0;
-        }
-
-        // Leaves the fraction without a common divisor in value; whether it is not beyond.
-        private boolean isFraction(long above, long below) {
-            value[0] = fraction(above, below, 0);
-            value[1] = fraction(above, below, 1);
-            return value[0] >= -BEYOND && value[0] <= BEYOND && value[1] >= 1 && value[1] <= BEYOND;
+        // Leaves the fraction without a common divisor in value: the reason if it is beyond, else 0.
+        private int tooGreat(long above, long below) {
+            long common = divisor(above, below);
+            value[0] = common < 1 ? 0 : above / common;
+            value[1] = common < 1 ? 1 : below / common;
+            boolean beyond = value[0] < -BEYOND || value[0] > BEYOND || value[1] < 1 || value[1] > BEYOND;
+            return beyond ? TOO_GREAT : 0;
         }
 
         private int end(int sign, int k) {
-            boolean exact = isFraction(stack[0][0], stack[1][0]);
+            int reason = tooGreat(stack[0][0], stack[1][0]);
             if (sign == '%') {
-                exact = exact && isFraction(value[0], value[1] * 100)
-                    && isFraction(value[0] * total[0], value[1] * total[1]);
+                reason = tooGreat(value[0], value[1] * 100);
+                reason = reason != 0 ? reason : tooGreat(value[0] * total[0], value[1] * total[1]);
             } else if (sign == '=') {
-                exact = exact && isFraction(value[0] * total[1] - total[0] * value[1], value[1] * total[1]);
+                reason = tooGreat(value[0] * total[1] - total[0] * value[1], value[1] * total[1]);
             }
             long above = value[0];
             long below = value[1];
-            if (!exact || !isFraction(total[0] * below + above * total[1], total[1] * below)) {
+            if (reason != 0 || tooGreat(total[0] * below + above * total[1], total[1] * below) != 0) {
                 return TOO_GREAT;
             }
             total[0] = value[0];
@@ -4414,7 +4423,7 @@ public final class TimberHouse {
             needNumber(isKind(kind));
             needState(hasRight(person, kind));
             int size = batches[set] == NONE ? setSizes[set] : batches[set];
-            return known(set, size, thing, kind, Integer.MAX_VALUE);
+            return known(set, size, thing, kind, GREATEST);
         }
 
         private static boolean isTeller(int teller) {
@@ -4503,7 +4512,7 @@ public final class TimberHouse {
 
         private boolean conflicts(int set, int thing) {
             int size = setSizes[set];
-            return settling(set, size, thing, Integer.MAX_VALUE) == NONE && !agree(set, size, thing, Integer.MAX_VALUE);
+            return settling(set, size, thing, GREATEST) == NONE && !agree(set, size, thing, GREATEST);
         }
 
         int entryFault(int day) {
