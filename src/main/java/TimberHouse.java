@@ -1167,10 +1167,12 @@ public final class TimberHouse {
 
         private int bestPiece(int fitting, int length) {
             int best = NONE;
+            long bestWorth = 0;
             for (int piece = 0; piece < pieceCount; piece++) {
-                boolean fits = (fitting >> piece & 1) == 1;
-                if (fits && (best == NONE || pricedWorth(piece, length) > pricedWorth(best, length))) {
+                long worth = (long) pieces[WORTH][piece] * length - priced[0][piece];
+                if ((fitting >> piece & 1) == 1 && (best == NONE || worth > bestWorth)) {
                     best = piece;
+                    bestWorth = worth;
                 }
             }
             return best;
@@ -2535,7 +2537,7 @@ public final class TimberHouse {
         private int partCount;
         private boolean fresh;
         private int cutCount;
-        private final int[][] record = new int[8][CUTS];
+        private final int[][] results = new int[8][CUTS];
         private final int[][] taken = new int[5][CUTS * CELLS];
         private final int[][] rests = new int[4][CUTS * CELLS];
         private final int[] codes = new int[CUTS * NODES];
@@ -2644,7 +2646,7 @@ public final class TimberHouse {
                 if (more) {
                     lay(best);
                     System.arraycopy(open, 0, left, 0, KINDS);
-                    record[ALIKE][cutCount] = firstAlike();
+                    results[ALIKE][cutCount] = firstAlike();
                     cutCount++;
                 }
             }
@@ -2655,7 +2657,7 @@ public final class TimberHouse {
         private int cut(int sheet, int what) {
             needState(fresh);
             needThing(hasCut(sheet) && within(what, 0, ALIKE));
-            return record[what][sheet];
+            return results[what][sheet];
         }
 
         private int takenAt(int sheet, int k, int what) {
@@ -2666,7 +2668,7 @@ public final class TimberHouse {
 
         private int rest(int sheet, int k, int what) {
             needState(fresh);
-            needThing(hasCut(sheet) && within(k, 0, record[RESTS][sheet] - 1) && within(what, 0, 3));
+            needThing(hasCut(sheet) && within(k, 0, results[RESTS][sheet] - 1) && within(what, 0, 3));
             return rests[what][sheet * CELLS + k];
         }
 
@@ -2684,8 +2686,8 @@ public final class TimberHouse {
             }
             int sum = 0;
             for (int k = 0; k < cutCount; k++) {
-                int sheet = record[SHEET][k];
-                sum += what == 1 ? sheets[0][sheet] * sheets[1][sheet] : record[AREA][k];
+                int sheet = results[SHEET][k];
+                sum += what == 1 ? sheets[0][sheet] * sheets[1][sheet] : results[AREA][k];
             }
             return sum;
         }
@@ -2711,7 +2713,7 @@ public final class TimberHouse {
         }
 
         int takenFrom(int sheet) {
-            return hasCut(sheet) ? record[TAKEN][sheet] : 0;
+            return hasCut(sheet) ? results[TAKEN][sheet] : 0;
         }
 
         int taken(int sheet, int k, int what) {
@@ -2729,7 +2731,7 @@ public final class TimberHouse {
         private int sum(int what) {
             int sum = 0;
             for (int k = 0; k < cutCount; k++) {
-                sum += record[what][k];
+                sum += results[what][k];
             }
             return sum;
         }
@@ -2737,7 +2739,7 @@ public final class TimberHouse {
         long allCents() {
             long sum = 0;
             for (int k = 0; k < cutCount; k++) {
-                sum += sheets[2][record[SHEET][k]];
+                sum += sheets[2][results[SHEET][k]];
             }
             return sum;
         }
@@ -2753,7 +2755,7 @@ public final class TimberHouse {
         private int cutTimes(int sheet) {
             int times = 0;
             for (int k = 0; k < cutCount; k++) {
-                times += truth(record[SHEET][k] == sheet);
+                times += truth(results[SHEET][k] == sheet);
             }
             return times;
         }
@@ -2813,15 +2815,15 @@ public final class TimberHouse {
             int w = sheets[0][sheet];
             int h = sheets[1][sheet];
             int way = truth(keys[index(stages, 1, w, h)] > keys[index(stages, 0, w, h)]);
-            for (int[] row : record) {
+            for (int[] row : results) {
                 row[cutCount] = 0;
             }
             codeLengths[cutCount] = 0;
             System.arraycopy(left, 0, open, 0, KINDS);
-            record[SHEET][cutCount] = sheet;
-            record[WAY][cutCount] = way;
+            results[SHEET][cutCount] = sheet;
+            results[WAY][cutCount] = way;
             layTree(w, h, way, stages, 0, 0);
-            return record[AREA][cutCount];
+            return results[AREA][cutCount];
         }
 
         // First pieces go one stage down, so they recur; second ones stay on theirs, so they loop.
@@ -2838,8 +2840,8 @@ public final class TimberHouse {
                     layLeaf(choice, x, y, w, h);
                     return;
                 }
-                record[CUT][cutCount]++;
-                record[MINUTES][cutCount] += way == 0 ? h : w;
+                results[CUT][cutCount]++;
+                results[MINUTES][cutCount] += way == 0 ? h : w;
                 layTree(way == 0 ? c : w, way == 0 ? h : c, 1 - way, stage - 1, x, y);
                 int gone = c + kerf;
                 x += way == 0 ? gone : 0;
@@ -2859,24 +2861,24 @@ public final class TimberHouse {
 
         private void layLeaf(int choice, int x, int y, int w, int h) {
             if (choice == WASTE && w >= least && h >= least) {
-                int at = cutCount * CELLS + record[RESTS][cutCount];
+                int at = cutCount * CELLS + results[RESTS][cutCount];
                 rests[0][at] = x;
                 rests[1][at] = y;
                 rests[2][at] = w;
                 rests[3][at] = h;
-                record[RESTS][cutCount]++;
+                results[RESTS][cutCount]++;
             }
             int part = choice - 1;
             if (within(part, 0, partCount - 1) && open[part] > 0) {
-                int at = cutCount * CELLS + record[TAKEN][cutCount];
+                int at = cutCount * CELLS + results[TAKEN][cutCount];
                 taken[0][at] = part;
                 taken[1][at] = x;
                 taken[2][at] = y;
                 taken[3][at] = w;
                 taken[4][at] = h;
                 open[part]--;
-                record[TAKEN][cutCount]++;
-                record[AREA][cutCount] += w * h;
+                results[TAKEN][cutCount]++;
+                results[AREA][cutCount] += w * h;
             }
         }
 
@@ -2890,8 +2892,8 @@ public final class TimberHouse {
         }
 
         private boolean isAlike(int other) {
-            boolean same = record[SHEET][other] == record[SHEET][cutCount]
-                && record[WAY][other] == record[WAY][cutCount] && codeLengths[other] == codeLengths[cutCount];
+            boolean same = results[SHEET][other] == results[SHEET][cutCount]
+                && results[WAY][other] == results[WAY][cutCount] && codeLengths[other] == codeLengths[cutCount];
             for (int i = 0; i < codeLengths[cutCount] && same; i++) {
                 same = codes[other * NODES + i] == codes[cutCount * NODES + i];
             }
