@@ -72,10 +72,9 @@ public final class TimberHouse {
             int steps = rips.planned(k, Rips.ALONG_X);
             int group = rips.planned(k, Rips.WHICH);
             if (steps >= least) {
-                if (joined.pieceFault(10 * steps, group) != 0) {
+                if (joined.addPiece(10 * steps, group) == NONE) {
                     return carried;
                 }
-                joined.addPiece(10 * steps, group);
                 carried++;
             }
         }
@@ -125,10 +124,11 @@ public final class TimberHouse {
             return BAD;
         }
         long cents = prices.offerCents(offer);
-        if (cents > BOOK_MOST || cents < -BOOK_MOST || shop.entryFault(day) != 0) {
+        boolean beyond = cents > BOOK_MOST || cents < -BOOK_MOST;
+        int entry = beyond ? NONE : shop.addEntry(day);
+        if (entry == NONE) {
             return BAD;
         }
-        int entry = shop.addEntry(day);
         shop.addRow(entry, 0, (int) cents);
         shop.addRow(entry, 1, (int) -cents);
         int number = shop.closeEntry(entry);
@@ -141,10 +141,10 @@ public final class TimberHouse {
 
     public int stock(int on) {
         int number = tellingsTold + 1;
-        if (!sheets.wasRun() || shop.hasTold(5, number) || shop.isFull()) {
+        if (!sheets.wasRun() || shop.hasTold(5, number)
+            || !shop.addTelling(5, number, 9, Shop.COUNT, sheets.allTaken(), on)) {
             return BAD;
         }
-        shop.addTelling(5, number, 9, Shop.COUNT, sheets.allTaken(), on);
         tellingsTold = number;
         return number;
     }
@@ -189,7 +189,8 @@ public final class TimberHouse {
 
     private int addWork(int job, int kind, long amount) {
         int hours = (int) Math.max(1, Math.min(100, amount));
-        return plans.stepFault(job, kind, hours, 0) == 0 ? plans.addStep(job, kind, hours, 0) : BAD;
+        int step = plans.addStep(job, kind, hours, 0);
+        return step == NONE ? BAD : step;
     }
 
     private int tellFact(int letter, boolean known, long number, int below) {
@@ -1462,14 +1463,18 @@ public final class TimberHouse {
             }
         }
 
-        int pieceFault(int length, int group) {
+        private int pieceFault(int length, int group) {
             if (pieceCount >= PIECES) {
                 return 3;
             }
             return length >= 1 && down(length, step) <= 60 && within(group, 0, 7) ? 0 : 2;
         }
 
+        // The number of the new PIECE, or NONE if it is refused. So all that the desk adds.
         int addPiece(int length, int group) {
+            if (pieceFault(length, group) != 0) {
+                return NONE;
+            }
             pieces[0][pieceCount] = (int) down(length, step);
             pieces[1][pieceCount] = group;
             fresh = false;
@@ -3425,7 +3430,7 @@ public final class TimberHouse {
             return 0;
         }
 
-        int stepFault(int job, int kind, int hours, int wait) {
+        private int stepFault(int job, int kind, int hours, int wait) {
             if (!isJob(job)) {
                 return 1;
             }
@@ -3436,6 +3441,9 @@ public final class TimberHouse {
         }
 
         int addStep(int job, int kind, int hours, int wait) {
+            if (stepFault(job, kind, hours, wait) != 0 || stepCount >= STEPS) {
+                return NONE;
+            }
             steps[KIND][stepCount] = kind;
             steps[HOURS][stepCount] = hours;
             steps[WAIT][stepCount] = wait;
@@ -4274,13 +4282,8 @@ public final class TimberHouse {
             if (hasTold(teller, number)) {
                 return 0;
             }
-            needState(!isFull());
-            addTelling(teller, number, thing, kind, v, on);
+            needState(addTelling(teller, number, thing, kind, v, on));
             return 1;
-        }
-
-        boolean isFull() {
-            return tellingCount >= TELLINGS;
         }
 
         boolean hasTold(int teller, int number) {
@@ -4292,9 +4295,9 @@ public final class TimberHouse {
             return false;
         }
 
-        void addTelling(int teller, int number, int thing, int kind, int v, int on) {
-            if (isFull()) {
-                return;
+        boolean addTelling(int teller, int number, int thing, int kind, int v, int on) {
+            if (tellingCount >= TELLINGS) {
+                return false;
             }
             tellings[TELLER][tellingCount] = teller;
             tellings[NUMBER][tellingCount] = number;
@@ -4304,6 +4307,7 @@ public final class TimberHouse {
             tellings[ON][tellingCount] = on;
             tellings[IN_SETS][tellingCount] = 0;
             tellingCount++;
+            return true;
         }
 
         private int set(int teller) {
@@ -4517,11 +4521,14 @@ public final class TimberHouse {
             return settling(set, size, thing, GREATEST) == NONE && !agree(set, size, thing, GREATEST);
         }
 
-        int entryFault(int day) {
+        private int entryFault(int day) {
             return !within(day, 0, MOST_DAY) ? 2 : entryCount < ENTRIES ? 0 : 3;
         }
 
         int addEntry(int day) {
+            if (entryFault(day) != 0) {
+                return NONE;
+            }
             entries[DAY][entryCount] = day;
             entries[CLOSED][entryCount] = 0;
             entries[SIZE][entryCount] = 0;
@@ -4536,6 +4543,9 @@ public final class TimberHouse {
         }
 
         int addRow(int entry, int account, int cents) {
+            if (!isEntry(entry) || entries[SIZE][entry] >= ROWS) {
+                return NONE;
+            }
             int at = entry * ROWS + entries[SIZE][entry];
             rows[0][at] = account;
             rows[1][at] = cents;
@@ -4559,6 +4569,9 @@ public final class TimberHouse {
         }
 
         int closeEntry(int entry) {
+            if (!isEntry(entry)) {
+                return 0;
+            }
             long sum = 0;
             for (int i = 0; i < entries[SIZE][entry]; i++) {
                 sum += rows[1][entry * ROWS + i];
