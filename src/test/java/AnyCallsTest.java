@@ -8,7 +8,7 @@ public final class AnyCallsTest {
     private static final int[] LAST = {12, 17, 15, 25, 17, 11, 12, 14, 17, 17};
 
     public static void main(String[] args) {
-        for (int seed = 0; seed < 400; seed++) {
+        for (int seed = 0; seed < 600; seed++) {
             run(new Random(seed));
         }
         Check.end();
@@ -23,7 +23,7 @@ public final class AnyCallsTest {
         TimberHouse one = new TimberHouse();
         TimberHouse other = new TimberHouse();
         int part = random.nextInt(13);
-        for (int i = 0; i < 700; i++) {
+        while (Check.left(one) > 130) {
             int p = part < 10 && random.nextInt(4) > 0 ? part : random.nextInt(10);
             int how = random.nextInt(12);
             if (how == 0) {

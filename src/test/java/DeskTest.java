@@ -20,13 +20,14 @@ public final class DeskTest {
     }
 
     private static void calls() {
-        TimberHouse x = new TimberHouse();
         for (int part = 0; part < 10; part++) {
+            TimberHouse x = new TimberHouse();
             for (int n = 1; n < 100; n++) {
                 boolean is = n <= LAST[part];
                 Check.due("call " + (100 * part + n), Check.act(x, 100 * part + n, -99, -99, -99, -99, -99, -99) == TimberHouse.NO_CALL ? 0 : 1, is ? 1 : 0);
             }
         }
+        TimberHouse x = new TimberHouse();
         for (int call : new int[] {-1, -100, 1000, 1001, 2147483647, -2147483648}) {
             Check.due(x, TimberHouse.NO_CALL, call);
         }

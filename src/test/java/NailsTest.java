@@ -113,10 +113,20 @@ public final class NailsTest {
         Check.due(x, 0, 401, 127);
         Check.due(x, 0, 401, -1);
         Check.due(x, -1, 402);
+        full();
+    }
+
+    private static void full() {
+        TimberHouse x = new TimberHouse();
         String sixteen = "n row 2" + ";n row 2".repeat(15);
         Check.read(x, 401, sixteen, 16);
         Check.read(x, 401, sixteen + ";", -1 - sixteen.length());
         Check.read(x, 401, sixteen + ";x", -1 - sixteen.length());
+        room();
+    }
+
+    private static void room() {
+        TimberHouse x = new TimberHouse();
         Check.write(x, 401, "n".repeat(200));
         Check.due(x, 0, 401, 'n');
         Check.due(x, -2, 402);

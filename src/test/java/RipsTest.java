@@ -144,7 +144,7 @@ public final class RipsTest {
         price = new long[8];
         way = 0;
         stages = 2;
-        for (int times = 0; times < 3; times++) {
+        for (int times = 0; times < 3 && Check.left(x) > 280; times++) {
             if (random.nextBoolean()) {
                 way = random.nextInt(2);
                 stages = 1 + random.nextInt(3);

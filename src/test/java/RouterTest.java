@@ -24,7 +24,7 @@ public final class RouterTest {
             reads(random);
         }
         texts();
-        for (int i = 0; i < 250; i++) {
+        for (int i = 0; i < 600; i++) {
             sweeps(random);
         }
         edges();
@@ -125,6 +125,12 @@ public final class RouterTest {
         Check.read(x, 604, "G0X1X1;", -5);
         Check.read(x, 604, "G0X 1;", -4);
         Check.read(x, 604, " G0 X1 Y1 Z1 ; T0 ;", 2);
+        full();
+        room();
+    }
+
+    private static void full() {
+        TimberHouse x = new TimberHouse();
         String full = "T0;".repeat(32);
         Check.read(x, 604, full, 32);
         Check.read(x, 604, full + " ", -97);
@@ -132,6 +138,10 @@ public final class RouterTest {
         Check.due(x, 0, 606);
         Check.due(x, 320, 607, 0);
         Check.due(x, 32, 607, 1);
+    }
+
+    private static void room() {
+        TimberHouse x = new TimberHouse();
         Check.due(x, 0, 604, 31);
         Check.due(x, 0, 604, 127);
         Check.write(x, 604, "T".repeat(240));
@@ -193,7 +203,7 @@ public final class RouterTest {
                 }
             }
         }
-        for (int times = 0; times < 3; times++) {
+        for (int times = 0; times < 3 && Check.left(x) > 220; times++) {
             StringBuilder text = new StringBuilder();
             List<String> program = new ArrayList<>();
             for (int i = 1 + random.nextInt(6); i > 0; i--) {
@@ -203,7 +213,7 @@ public final class RouterTest {
             }
             Check.read(x, 604, text.toString(), program.size());
             runs(x, program);
-            looks(x);
+            looks(x, random);
         }
         Check.due(x, 0, 612);
         Check.due(x, 100, 608, 0, 0, 0);
@@ -262,13 +272,15 @@ public final class RouterTest {
         }
     }
 
-    private static void looks(TimberHouse x) {
+    private static void looks(TimberHouse x, Random random) {
         int[] check = {0, 0, -1, -1};
         for (int cy = 0; cy < side; cy++) {
             for (int cx = 0; cx < side; cx++) {
-                Check.due(x, height[cy][cx], 608, cx, cy, 0);
-                Check.due(x, target[cy][cx], 608, cx, cy, 1);
-                Check.due(x, kept[cy][cx] ? 1 : 0, 608, cx, cy, 2);
+                if (random.nextInt(side * side) < 20) {
+                    Check.due(x, height[cy][cx], 608, cx, cy, 0);
+                    Check.due(x, target[cy][cx], 608, cx, cy, 1);
+                    Check.due(x, kept[cy][cx] ? 1 : 0, 608, cx, cy, 2);
+                }
                 for (int deep = 0; deep < 2; deep++) {
                     if (deep == 0 ? height[cy][cx] > target[cy][cx] : height[cy][cx] < target[cy][cx]) {
                         check[deep]++;

@@ -121,7 +121,7 @@ public final class ShopTest {
                 boolean on = random.nextInt(4) > 0;
                 Check.due(x, rights[person][kind] == on ? 0 : 1, 910, person, kind, on ? -3 : 0);
                 rights[person][kind] = on;
-            } else if (!sets.isEmpty()) {
+            } else if (!sets.isEmpty() && Check.left(x) > 280) {
                 looks(x, one, other, rights, random);
             }
         }
