@@ -18,6 +18,7 @@ public final class FingersEdgesTest {
         withoutPieces();
         orders();
         ordersFirst();
+        eachOrder();
         lasts();
         lossStays();
         barred();
@@ -101,7 +102,8 @@ public final class FingersEdgesTest {
     private static void nearestLoss() {
         int[][] told = {{1, -2147483648, 1}, {1, 0, 1}, {1, 1, 1}, {1, 2, 2}, {1, 59, 59}, {10, 9, 1}, {10, 10, 1}, {10, 11, 2},
             {10, 20, 2}, {10, 21, 3}, {2000, 65536, 33}, {2000, 65537, 33}, {2000, 70001, 33}, {2000, 2147483647, 33}, {65536, 1, 1},
-            {65536, 65536, 1}, {65536, 65537, 1}};
+            {65536, 65536, 1}, {65536, 65537, 1}, {65535, 65535, 1}, {65535, 65536, 2}, {65535, 65537, 2}, {4369, 65535, 15},
+            {4369, 65536, 16}, {4369, 70000, 16}};
         for (int[] v : told) {
             Twins t = made(v[0], v[1]);
             t.due(0, 201, 3 * v[0], 0);
@@ -144,7 +146,7 @@ public final class FingersEdgesTest {
     private static void forgotten() {
         Twins t = pieces(made(1, 1), 5, 5);
         t.due(1, 202, 9, 4);
-        t.due(1, 203, 1, 2);
+        t.due(1, 203, 1, 3);
         t.due(1, 204, 0, 1);
         t.due(1, 204, 7, 1);
         t.due(1, 205);
@@ -463,6 +465,42 @@ public final class FingersEdgesTest {
         q.due(2, 208, 2);
         order(q, 0, 2, 1);
         looks(t);
+    }
+
+    /** Each order of five pieces, when bars leave room for the joints of that one alone. */
+    private static void eachOrder() {
+        int[] lengths = {3, 5, 9, 17, 26};
+        for (int n = 0; n < 120; n++) {
+            int[] want = new int[5];
+            StringBuilder left = new StringBuilder("01234");
+            for (int place = 0, rest = n, all = 24; place < 5; place++) {
+                want[place] = left.charAt(rest / all) - '0';
+                left.deleteCharAt(rest / all);
+                rest %= all;
+                all = place == 4 ? 1 : all / (4 - place);
+            }
+            Twins t = made(1, 1);
+            for (int k = 0; k < 5; k++) {
+                int place = 0;
+                while (want[place] != k) {
+                    place++;
+                }
+                t.due(k, 201, lengths[place], 0);
+            }
+            t.due(1, 202, 56, 9);
+            int[] joints = {0, 3, 7, 15, 31, 56};
+            for (int i = 0; i < 5; i++) {
+                t.due(1, 203, joints[i], joints[i + 1]);
+            }
+            t.due(1, 206, 5);
+            order(t, want);
+            for (int i = 0; i < 4; i++) {
+                t.due(joints[i + 1], 210, i, 1);
+            }
+            t.due(0, 208, 2);
+            t.due(n == 0 ? 1 : 0, 205);
+            order(t, 0, 1, 2, 3, 4);
+        }
     }
 
     // "A product can't begin if pieces don't last"; "At a piece's end the line goes on with the next one (no joint)."
@@ -868,6 +906,11 @@ public final class FingersEdgesTest {
         Twins p = line();
         tell(p, 0, "ggggggggggbb");
         p.due(12, 215, 2);
+        for (int at = 11; at <= 21; at++) {
+            Twins o = line();
+            tell(o, 0, "b" + "g".repeat(at - 2) + "b");
+            o.due(at < 20 ? at : 0, 215, 2);
+        }
         looks(t);
     }
 

@@ -127,8 +127,8 @@ public final class FingersTest {
         wants.clear();
         bars.clear();
         java.util.Arrays.fill(alone, false);
-        for (int i = random.nextInt(5); i > 0; i--) {
-            int[] piece = {1 + random.nextInt(4 * step), random.nextInt(3)};
+        for (int i = random.nextInt(random.nextInt(8) == 0 ? 7 : 5); i > 0; i--) {
+            int[] piece = {1 + random.nextInt((pieces.size() < 4 ? 5 : 3) * step), random.nextInt(3)};
             Check.due(x, pieces.size(), 201, piece[0], piece[1]);
             pieces.add(piece);
         }
@@ -153,8 +153,10 @@ public final class FingersTest {
             order[i] = i;
         }
         Line line = best(order, 0, 0, new Line(), null);
-        Check.due(x, line.made.size(), 205);
-        same(x, line, order);
+        if (random.nextInt(3) > 0) {
+            Check.due(x, line.made.size(), 205);
+            same(x, line, order);
+        }
         int buffer = random.nextInt(6);
         List<int[]> orders = new ArrayList<>();
         permute(order, 0, Math.min(buffer, order.length), new boolean[order.length], order.clone(), orders);
@@ -169,6 +171,8 @@ public final class FingersTest {
         }
         Check.due(x, bestLine.made.size(), 206, buffer);
         same(x, bestLine, bestOrder);
+        Check.due(x, line.made.size(), 205);
+        same(x, line, order);
     }
 
     private static void permute(int[] order, int place, int first, boolean[] used, int[] sofar, List<int[]> all) {

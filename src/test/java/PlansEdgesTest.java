@@ -118,6 +118,20 @@ public final class PlansEdgesTest {
         t.due(0, 708, 0, 0);
         t.due(1, 710, 3);
         t.due(4, 710, 0);
+        // What is placed as the PLAN of before was is in none now all the same.
+        Twins s = shop(1, 1, 5, 2, 1, 5);
+        s.due(0, 706, 9);
+        s.due(2, 710, 3);
+        s.due(1, 700, 1);
+        s.due(0, 701, 0);
+        for (int job = 0; job < 2; job++) {
+            s.due(job, 703, 1 + job, 1);
+            s.due(job, 705, job, 0, 5, 0);
+        }
+        s.due(0, 706, 9);
+        s.due(2, 710, 3);
+        s.due(0, 706, 9);
+        s.due(0, 710, 3);
         looks(t);
     }
 
@@ -724,6 +738,21 @@ public final class PlansEdgesTest {
         s.state(712, 2);
         s.same(706, 1);
         s.due(0, 712, 2);
+        // What was looked at apart since then is none of the others.
+        Twins q = shop(0, 9, 4, 5, 9, 3, 9, 9, 4);
+        q.due(1, 706, 1);
+        for (int job = 0; job < 3; job++) {
+            for (int other = 0; other < 3; other++) {
+                q.same(711, other);
+                q.due(new int[] {4, 7, 11}[job], 712, job);
+                q.same(713, other);
+                q.due(new int[] {4, 7, 11}[job], 712, job);
+                q.due(new int[] {4, 7, 11}[other], 712, other);
+            }
+        }
+        q.due(0, 708, 0, 0);
+        q.due(4, 708, 1, 0);
+        q.due(7, 708, 2, 0);
         // A job whose own steps leave a gap that it may go into when it is placed again.
         Twins r = new Twins();
         r.due(0, 701, 0);
@@ -872,6 +901,33 @@ public final class PlansEdgesTest {
         t.due(5, 708, 23, 1);
         t.due(0, 714);
         t.due(0, 707, 100);
+        looks(t);
+        oneMachine();
+    }
+
+    /** All steps one behind the other on one machine, between and behind all its spans. */
+    private static void oneMachine() {
+        Twins t = new Twins();
+        t.due(0, 701, 3);
+        for (int i = 0; i < 8; i++) {
+            t.due(i + 1, 702, 0, 50 * i, 50 * i + 10);
+        }
+        int number = 0;
+        for (int job = 0; job < 6; job++) {
+            t.due(job, 703, job, 100);
+            for (int i = 0; i < 4; i++) {
+                t.due(number++, 705, job, 3, 40 + 60 * (job / 5), 0);
+            }
+        }
+        t.due(1, 706, 1);
+        // Eight steps of 40 hours fill the gaps and go on from 360; so do all others from there.
+        for (int k = 0; k < 20; k++) {
+            t.due(k < 7 ? 10 + 50 * k : 360 + 40 * (k - 7), 708, k, 0);
+        }
+        for (int k = 20; k < 24; k++) {
+            t.due(360 + 40 * 13 + 100 * (k - 20), 708, k, 0);
+        }
+        t.due(500, 714);
         looks(t);
     }
 }

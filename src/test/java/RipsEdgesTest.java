@@ -158,12 +158,44 @@ public final class RipsEdgesTest {
         t.due(0, 106, 0);
         t.due(0, 107, 16777216);
         t.due(0, 102, 10, 10, 20, 4);
-        // RIPPED first in two stages, without GANG, fault, NEED.
+        // RIPPED first in two stages, without GANG, fault, NEED, and what the piece of before ALLOWS.
         t.due(1, 109, 6);
         t.due(2, 111, -1, 0);
         t.due(2, 111, 0, 2);
+        t.due(1, 101, 0, 0, 0, 0, 5, 5);
+        t.due(2, 108, 0, 2);
+        t.due(1, 111, 0, 2);
+        t.due(1, 103, 0, 0, 0);
+        t.due(2, 108, 1, 3);
         t.due(1, 104, 20);
+        // The way of the latest run is forgotten, too.
+        t.due(1, 100, 20, 20, 10);
+        t.due(0, 102, 10, 10, 10, 4);
+        t.due(1, 109, 6);
+        t.due(1, 111, 1, 0);
+        t.due(0, 111, 1, 1);
         looks(t);
+        smaller();
+    }
+
+    /** A board that is smaller than the one before knows nothing of that one. */
+    private static void smaller() {
+        for (int way = 0; way < 2; way++) {
+            for (int stages = 1; stages < 4; stages++) {
+                Twins t = board(24, 10);
+                t.due(0, 102, 10, 10, 240, 9);
+                t.due(1, 102, 100, 10, 240, 9);
+                t.same(108, way, stages);
+                t.due(1, 100, 30, 50, 10);
+                t.due(0, 102, 10, 10, 50, 4);
+                t.due(1, 102, 30, 10, 50, 4);
+                t.same(108, way, stages);
+                boolean thin = way == 0 || stages > 1;
+                t.due(thin ? 60 : 20, 110);
+                t.due(thin ? 3 : 1, 111, -1, 0);
+                t.due(0, 115, -1, 0);
+            }
+        }
     }
 
     // "IndexOutOfBoundsException: there is no such face; .. IllegalArgumentException: kind is not 0 .. 7, x or y not

@@ -31,8 +31,57 @@ public final class RipsTest {
         for (int i = 0; i < 1500; i++) {
             compare(random);
         }
+        for (int seed = 0; seed < 400; seed++) {
+            rounds(new Random(seed));
+        }
+        // Of these the rounds that are taken are not the last ones without too many, or one of several that are as good.
+        for (int seed : new int[] {14369, 14768, 19050, 21666}) {
+            rounds(new Random(seed));
+        }
         edges();
         Check.end();
+    }
+
+    /** Prices that rise and fall by pieces that are worth as much as prices are. */
+    private static void rounds(Random random) {
+        TimberHouse x = new TimberHouse();
+        step = 10;
+        length = 1 + random.nextInt(8);
+        width = 1 + random.nextInt(2);
+        Check.due(x, 1, 100, width * step, length * step, step);
+        clear();
+        int count = 2 + random.nextInt(4);
+        for (int p = 0; p < count; p++) {
+            int low = 1 + random.nextInt(2);
+            int[] piece = {10, low * 10, low * 10 + 10 * random.nextInt(2), 50 * (1 + random.nextInt(8))};
+            pieces.add(piece);
+            allows.add(new boolean[2][8]);
+            Check.due(x, p, 102, piece[0], piece[1], piece[2], piece[3]);
+        }
+        for (int p = 0; p < count; p++) {
+            if (random.nextInt(4) > 0) {
+                needs[p] = random.nextInt(4);
+                Check.due(x, 1, 105, p, needs[p]);
+            }
+        }
+        int kinds = random.nextInt(4);
+        for (int kind = 0; kind < kinds; kind++) {
+            int[] f = {0, kind, 10 * random.nextInt(length), 0, 10 * (1 + random.nextInt(3)), 10};
+            Check.due(x, 1, 101, f[0], f[1], f[2], f[3], f[4], f[5]);
+            faults.add(f);
+        }
+        for (int p = 0; p < count; p++) {
+            for (int kind = 0; kind < kinds; kind++) {
+                if (random.nextBoolean()) {
+                    Check.due(x, 1, 103, p, 0, kind);
+                    allows.get(p)[0][kind] = true;
+                }
+            }
+        }
+        price = new long[8];
+        way = 0;
+        stages = 2;
+        priced(x, 2 + random.nextInt(5));
     }
 
     private static boolean overlaps(int[] f, int x, int y, int w, int h) {
@@ -160,7 +209,7 @@ public final class RipsTest {
         }
     }
 
-    private static void tell(TimberHouse x, Random random) {
+    private static void clear() {
         faults.clear();
         pieces.clear();
         allows.clear();
@@ -169,6 +218,10 @@ public final class RipsTest {
         bow = 16777216;
         needs = new int[8];
         Arrays.fill(needs, -1);
+    }
+
+    private static void tell(TimberHouse x, Random random) {
+        clear();
         int count = random.nextInt(4);
         for (int p = 0; p < count; p++) {
             int low = 1 + random.nextInt(2 * step);

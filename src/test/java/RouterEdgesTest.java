@@ -775,6 +775,7 @@ public final class RouterEdgesTest {
         // By corners nothing hangs together.
         run(t, "G0X3Y3;G1Z0;G1Y0;G1X0;G1Y3;G1X3;", 6, 0);
         t.due(1, 611);
+        shapes();
         Twins s = made(2);
         run(s, "G1Z0;", 1, 0);
         s.due(1, 611);
@@ -784,6 +785,35 @@ public final class RouterEdgesTest {
         s.due(0, 611);
         s.due(4, 609, 1);
         looks(t);
+    }
+
+    /** Walls of one cell that turn to all sides, all else cut to the ground: x is a wall. */
+    private static void shapes() {
+        String[][] told = {
+            {"x....", "x.x..", "xxx..", ".....", "....."}, {"..x..", "x.x..", "xxx..", ".....", "....."},
+            {"xxx..", "x.x..", "x....", ".....", "....."}, {"xxx..", "x.x..", "..x..", ".....", "....."},
+            {"xxx..", "x....", "xx...", ".....", "....."}, {"xxx..", "..x..", ".xx..", ".....", "....."},
+            {"xxxxx", "....x", "xxx.x", "x...x", "xxxxx"}, {"xxxxx", "x...x", "x.xxx", "x....", "xxxxx"},
+            {"x.x.x", ".x.x.", "x.x.x", ".x.x.", "x.x.x"}, {"xxxxx", "x...x", "x.x.x", "x...x", "xxxxx"},
+            {"x...x", "x...x", ".....", "x...x", "x...x"}, {".....", ".....", ".....", ".....", "....x"}};
+        int[] want = {1, 1, 1, 1, 1, 1, 1, 1, 13, 2, 4, 1};
+        for (int i = 0; i < told.length; i++) {
+            Twins t = made(5);
+            for (int y = 0; y < 5; y++) {
+                StringBuilder text = new StringBuilder();
+                int count = 0;
+                for (int x = 0; x < 5; x++) {
+                    if (told[i][y].charAt(x) == '.') {
+                        text.append("G0X").append(x).append("Y").append(y).append(";G1Z0;G0Z100;");
+                        count += 3;
+                    }
+                }
+                if (count > 0) {
+                    run(t, text.toString(), count, 0);
+                }
+            }
+            t.due(want[i], 611);
+        }
     }
 
     // "All HEIGHTS are 100 again."

@@ -83,6 +83,7 @@ public final class SawEdgesTest {
             wood(t, 0, 0, 20);
             t.due(0, 4, 1, 1, 1, 0);
             t.due(kerf[1], 5);
+            t.due(1 + Math.max(0, Math.min(4, kerf[0])), 6, 1, 1);
         }
     }
 
@@ -119,6 +120,33 @@ public final class SawEdgesTest {
         t.due(0, 4, 1, 1, 7, 0);
         t.due(0, 5);
         looks(t);
+        smaller();
+    }
+
+    /** A log that is smaller than the one before knows nothing of that one. */
+    private static void smaller() {
+        for (int side = 1; side < 20; side += 3) {
+            Twins t = new Twins();
+            t.due(1, 0, 20, 0);
+            for (int y = 0; y < 20; y++) {
+                wood(t, y, 0, 20);
+            }
+            t.due(0, 4, 1, 1, 9, 0);
+            t.due(1, 4, 2, 1, 9, 0);
+            t.due(400, 5);
+            t.due(1, 0, side, 0);
+            for (int y = 0; y < side; y++) {
+                wood(t, y, 0, side);
+            }
+            t.due(0, 4, 1, 1, 5, 0);
+            t.due(5 * side * side, 8, 0);
+            t.due(5 * side * side, 8, 1);
+            t.due(side * side, 5);
+            t.due(side, 7, 2);
+            t.due(5 * side * side, 7, 0);
+            t.due(side * side, 12);
+            t.thing(10, 1, 0, 0, 0);
+        }
     }
 
     // "A cell is IN at an end, or not: whether that is new. IndexOutOfBoundsException."
@@ -419,6 +447,16 @@ public final class SawEdgesTest {
         t.due(0, 10, 0, 2147483647, 9, 0);
         t.due(0, 10, 0, 10, 2147483647, 0);
         t.due(0, 10, 0, -2147483648, -2147483648, 1);
+        // Off the grid it may not lie, however great its WANE is.
+        t.due(1, 4, 3, 2, 1, 400);
+        t.due(1, 10, 1, 10, 9, 0);
+        t.due(0, 10, 1, 11, 9, 0);
+        t.due(0, 10, 1, 10, 10, 0);
+        t.due(1, 10, 1, 9, 10, 1);
+        t.due(0, 10, 1, 10, 10, 1);
+        t.due(0, 10, 1, 9, 11, 1);
+        t.due(0, 10, 1, -1, 0, 0);
+        t.due(0, 10, 1, 0, -1, 0);
         wood(t, 10, 9, 10);
         wood(t, 11, 9, 10);
         t.due(1, 10, 0, 9, 10, 1);

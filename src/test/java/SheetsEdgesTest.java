@@ -103,6 +103,7 @@ public final class SheetsEdgesTest {
             t.due(0, 502, 1, 1, 50, 0);
             t.due(1, 505);
             t.due(v[1], 506, 0, 1);
+            t.due(1 + Math.max(0, Math.min(3, v[0])), 507, 0, 1, 1);
         }
     }
 

@@ -142,6 +142,24 @@ public final class ShopEdgesTest {
         t.due(1, 914, 0);
         t.due(1, 916, 0);
         looks(t);
+        // Which set had a TELLING, and which NUMBER was REVERSED, is forgotten with them.
+        Twins s = new Twins();
+        tell(s, 0, 1, 0, COUNT, 5, 0);
+        s.due(0, 902, 0);
+        closed(s, 0, 5, 1);
+        s.due(2, 917, 1, 5);
+        s.due(1, 900);
+        tell(s, 0, 1, 0, COUNT, 6, 0);
+        s.due(0, 902, 1);
+        s.due(1, 902, 0);
+        s.due(0, 904, 0, 1);
+        s.due(1, 903, 0, 1);
+        s.due(6, 905, 0, 0, COUNT, 0);
+        closed(s, 0, 5, 1);
+        closed(s, 1, 5, 2);
+        s.due(3, 917, 1, 5);
+        s.due(4, 917, 2, 5);
+        looks(s);
     }
 
     // "IndexOutOfBoundsException: no such teller, thing; IllegalArgumentException: another kind"

@@ -476,6 +476,20 @@ public final class TurnedEdgesTest {
         r.due(0, 308, 0, 0, 0);
         r.due(499, 308, 0, 1, 0);
         r.due(500, 308, 0, 1, 1);
+        // Nor is there what a longer PROFILE had before.
+        Twins q = piece(500, 64, 500);
+        q.due(0, 307, 12);
+        q.due(0, 301, 5);
+        q.due(1, 302, 6, 5);
+        q.due(1, 304);
+        for (int x = 0; x <= 6; x++) {
+            q.due(5, 308, 1, 0, x);
+        }
+        q.due(0, 309, 1, 0);
+        q.due(1, 310, 1, 0, 5, 0);
+        q.thing(305, 1, 7);
+        q.due(8, 306, 1, 1);
+        q.due(495, 315, 0, 1);
         looks(t);
     }
 
