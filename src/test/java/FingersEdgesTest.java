@@ -168,9 +168,11 @@ public final class FingersEdgesTest {
         t.due(0, 204, 0, 0);
         t.due(0, 204, 7, 0);
         pieces(t, 2, 5);
-        t.due(1, 202, 5, 4);
+        t.due(1, 202, 6, 4);
         t.due(1, 203, 4, 5);
         t.due(1, 205);
+        t.due(0, 209, 0, 2);
+        t.due(2, 210, 0, 1);
         // A bad test behind ANEW is the first one again.
         t.due(1, 213, 0, 0);
         t.due(1, 215, 0);

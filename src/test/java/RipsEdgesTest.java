@@ -29,6 +29,7 @@ public final class RipsEdgesTest {
         pricedRounds();
         pricedFalls();
         pricedEnds();
+        pricedAbove();
         pricedAs();
         takenOff();
         asked();
@@ -765,6 +766,30 @@ public final class RipsEdgesTest {
         t.due(300, 110);
         t.due(0, 117);
         looks(t);
+    }
+
+    // "and just that of each that had a price above 0": a price of 1 is above 0.
+    private static void pricedAbove() {
+        int[] prices = {0, 768, 256, 1, 0, 153};
+        long[] values = {3500, 6066, 4262, 3497, 3500, 3953};
+        int[] counts = {4, 0, 1, 1, 1, 1};
+        long[] worths = {2000, 2994, 3494, 3494, 3494, 3494};
+        long bound = values[0];
+        for (int rounds = 1; rounds <= 6; rounds++) {
+            bound = Math.min(bound, values[rounds - 1]);
+            Twins t = board(7, 1);
+            t.due(0, 102, 10, 10, 10, 499);
+            t.due(1, 102, 10, 10, 10, 500);
+            t.due(1, 101, 0, 0, 0, 0, 10, 10);
+            t.due(1, 103, 1, 0, 0);
+            t.due(1, 105, 1, 4);
+            t.due(rounds, 109, rounds);
+            t.due(prices[rounds - 1], 114, 1, 0);
+            t.due(bound, 113);
+            t.due(counts[rounds - 1], 114, 1, 1);
+            t.due(worths[rounds - 1], 110);
+            looks(t);
+        }
     }
 
     // "PRICED, cut as the latest run() was (RIPPED first in two stages, if there was none)"
