@@ -1,8 +1,15 @@
+import java.lang.reflect.Constructor;
+import java.lang.reflect.Field;
+import java.lang.reflect.Method;
+import java.lang.reflect.Modifier;
+import java.util.Arrays;
+
 /** The desk and the face: each sentence that names a boundary, its last value that is allowed and its first that is not. */
 public final class DeskEdgesTest {
     private static final int[] LAST = {12, 17, 15, 25, 17, 11, 12, 14, 17, 17};
 
     public static void main(String[] args) {
+        face();
         constants();
         newObject();
         noSuchCall();
@@ -44,6 +51,39 @@ public final class DeskEdgesTest {
 
     private static void bad(String what, int got) {
         Check.due(what, got, -1);
+    }
+
+    private static void is(String what, boolean right) {
+        Check.due(what, right ? 1 : 0, 1);
+    }
+
+    /** The public face is what the document shows, and nothing else is to be seen from outside. */
+    private static void face() {
+        Class<?> face = TimberHouse.class;
+        is("public and final", Modifier.isPublic(face.getModifiers()) && Modifier.isFinal(face.getModifiers()));
+        is("of no other class", face.getSuperclass() == Object.class && face.getInterfaces().length == 0);
+        String[] methods = {"long act 7", "int rip 2", "int fingers 1", "int hours 2", "int passes 4", "int route 2", "int facts 0",
+            "int book 2", "int stock 1", "int whole 1"};
+        int seen = 0;
+        for (Method m : face.getDeclaredMethods()) {
+            if (!Modifier.isPrivate(m.getModifiers()) && !m.isSynthetic()) {
+                String told = m.getReturnType() + " " + m.getName() + " " + m.getParameterCount();
+                is(told, Modifier.isPublic(m.getModifiers()) && !Modifier.isStatic(m.getModifiers()) && Arrays.asList(methods).contains(told));
+                for (Class<?> type : m.getParameterTypes()) {
+                    is("ints are told to " + told, type == int.class);
+                }
+                seen++;
+            }
+        }
+        Check.due("methods of the face", seen, methods.length);
+        Constructor<?>[] made = face.getDeclaredConstructors();
+        is("one constructor", made.length == 1 && made[0].getParameterCount() == 0 && Modifier.isPublic(made[0].getModifiers()));
+        for (Field f : face.getDeclaredFields()) {
+            if (!Modifier.isPrivate(f.getModifiers()) && !f.isSynthetic()) {
+                boolean constant = Modifier.isPublic(f.getModifiers()) && Modifier.isStatic(f.getModifiers()) && Modifier.isFinal(f.getModifiers());
+                is(f.getName(), constant && (f.getName().equals("NO_CALL") ? f.getType() == long.class : f.getName().equals("BAD") && f.getType() == int.class));
+            }
+        }
     }
 
     // "NO_CALL (- 9,000,000,000,000,000,000)"
