@@ -511,6 +511,25 @@ public final class DeskEdgesTest {
             passes(t, 0, 0, 0, 0, 3);
             t.due(v[2], 711, 0);
         }
+        // The piece and the tool that are told, which have not the same numbers.
+        Twins s = new Twins();
+        s.due(0, 703, 0, 1);
+        s.due(0, 701, 3);
+        for (int p = 0; p < 2; p++) {
+            s.due(0, 301, 100);
+            s.due(1, 302, 1, 100);
+            s.due(2, 302, 2, 50 * p);
+            s.due(3, 302, 3, 100);
+            s.due(p, 304);
+            s.due(p, 307, p);
+        }
+        int[][] hours = {{0, 0, 11}, {0, 1, 1}, {1, 0, 6}, {1, 1, 1}};
+        int sum = 0;
+        for (int k = 0; k < 4; k++) {
+            passes(s, k, hours[k][0], hours[k][1], 0, 3);
+            sum += hours[k][2];
+            s.due(sum, 711, 0);
+        }
         // Where nothing is cut it is an hour all the same.
         Twins t = new Twins();
         t.due(0, 703, 0, 1);

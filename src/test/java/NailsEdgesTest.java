@@ -700,6 +700,8 @@ public final class NailsEdgesTest {
         }
         t.number(413, 5, 5, 5, 5, 1);
         t.number(413, 0, 0, 0, 0, 0);
+        t.number(413, 3, 7, 3, 7, 5);
+        t.number(413, -10000, 10000, -10000, 10000, 5);
         t.number(413, 0, 0, 5, 0, 0);
         t.number(413, 0, 0, 5, 0, 10001);
         t.number(413, 0, 0, 5, 0, -1);
@@ -709,13 +711,13 @@ public final class NailsEdgesTest {
         t.due(2, 413, 0, 0, 0, 1, 1);
         t.due(3, 413, 0, 0, 1, 0, 1);
         t.due(4, 413, 5, 5, 5, 4, 1);
-        t.due(5, 413, 5, 5, 4, 5, 1);
+        t.due(5, 413, 3, 5, 5, 3, 1);
         t.state(413, 0, 0, 1, 0, 1);
         t.number(413, 5, 5, 5, 5, 1);
         t.number(413, 0, 0, 10001, 0, 1);
         t.number(413, 0, 0, 1, 0, 0);
         t.thing(414, 6, 0, 0);
-        t.due(1, 414, 5, 4, 5);
+        t.due(1, 414, 5, 4, 4);
         looks(t);
     }
 

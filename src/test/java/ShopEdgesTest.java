@@ -24,6 +24,7 @@ public final class ShopEdgesTest {
         onNotBehind();
         counts();
         places();
+        placesJoined();
         marks();
         settled();
         settles();
@@ -443,6 +444,27 @@ public final class ShopEdgesTest {
                     looks(t);
                 }
             }
+        }
+    }
+
+    // Also in a set to which the lesser NUMBER came last.
+    private static void placesJoined() {
+        for (int kind : new int[] {PLACE, SETTLE}) {
+            Twins t = new Twins();
+            tell(t, 4, 9, 0, kind, 70, 5);
+            t.due(0, 902, 4);
+            tell(t, 4, 3, 0, kind, 71, 5);
+            tell(t, 4, 20, 0, kind, 72, 4);
+            t.due(1, 902, 4);
+            t.due(2, 903, 0, 1);
+            t.due(9, 908, 0, 0, 0, 1);
+            t.due(3, 908, 0, 0, 1, 1);
+            t.due(20, 908, 0, 0, 2, 1);
+            t.due(70, 905, 0, 0, kind, 5);
+            t.due(70, 905, 1, 0, kind, 5);
+            t.due(72, 905, 0, 0, kind, 4);
+            t.due(0, 905, 1, 0, kind, 3);
+            looks(t);
         }
     }
 

@@ -22,6 +22,7 @@ public final class TurnedEdgesTest {
         passes();
         passCounts();
         cuts();
+        pieceAndTool();
         steadies();
         steadyPlaces();
         volumes();
@@ -314,6 +315,14 @@ public final class TurnedEdgesTest {
         t.due(25, 306, 1, 0);
         t.due(4, 306, 1, 2);
         goesOn(t, 26, 0);
+        // The other way round: the first end above h, the second one below it.
+        Twins s = new Twins();
+        s.due(0, 301, 17);
+        s.due(0, 303, 7, 10, 4, 14, 1);
+        s.due(0, 303, 7, 10, 4, 14, 0);
+        s.state(304);
+        s.due(1, 303, 8, 17, 4, 14, 1);
+        goesOn(s, 9, 0);
     }
 
     // "s being the greatest whole number with s * s <= Q - (x - c) * (x - c); but 0 if that is less, 500 if it is more"
@@ -577,6 +586,44 @@ public final class TurnedEdgesTest {
         t.due(0, 311, 0, 0, 100, 50, 1);
         t.due(0, 311, 0, 0, 100, 0, 2);
         t.due(0, 311, 0, 0, 100, 0, 2147483647);
+        looks(t);
+    }
+
+    /** Each PIECE with each TOOL, which have not the same numbers. */
+    private static void pieceAndTool() {
+        // A groove of one place: 20, 30, 40 high, 10, 11, 12 deep.
+        Twins t = new Twins();
+        for (int p = 0; p < 3; p++) {
+            int high = 20 + 10 * p;
+            t.due(0, 301, high);
+            t.due(1, 302, 4 + p, high);
+            t.due(2, 302, 5 + p, 10 + 9 * p);
+            t.due(3, 302, 6 + p, high);
+            t.due(4, 302, 12 + 2 * p, high);
+            t.due(p, 304);
+        }
+        for (int tool = 0; tool < 2; tool++) {
+            t.due(tool, 307, tool);
+        }
+        for (int p = 0; p < 3; p++) {
+            for (int tool = 0; tool < 2; tool++) {
+                // A NOSE of 0 reaches the ground, one of 1 but one below the rim.
+                int deep = tool == 0 ? 10 + p : 1;
+                t.due(20 + 10 * p - deep, 308, p, tool, 5 + p);
+                t.due(tool, 309, p, tool);
+                t.due(3 + deep, 310, p, tool, 1, 0);
+                t.due(1, 311, p, tool, 1, 0, 3 + deep);
+                t.due(0, 311, p, tool, 1, 0, 4 + deep);
+                t.due(13 + 2 * p, 311, p, tool, 1, 0, 3);
+                t.due(1, 311, p, tool, 1, 0, 4);
+            }
+            t.thing(308, p, 2, 0);
+            t.thing(309, p, 2);
+            t.thing(310, p, 2, 1, 0);
+            t.thing(311, p, 2, 1, 0, 1);
+            t.due(20 + 10 * p, 308, p, 0, 12 + 2 * p);
+            t.thing(308, p, 0, 13 + 2 * p);
+        }
         looks(t);
     }
 
