@@ -596,10 +596,11 @@ public final class TurnedEdgesTest {
         for (int p = 0; p < 3; p++) {
             int high = 20 + 10 * p;
             t.due(0, 301, high);
-            t.due(1, 302, 4 + p, high);
-            t.due(2, 302, 5 + p, 10 + 9 * p);
-            t.due(3, 302, 6 + p, high);
-            t.due(4, 302, 12 + 2 * p, high);
+            int at = 5 + 5 * p;
+            t.due(1, 302, at - 1, high);
+            t.due(2, 302, at, 10 + 9 * p);
+            t.due(3, 302, at + 1, high);
+            t.due(4, 302, at + 3, high);
             t.due(p, 304);
         }
         for (int tool = 0; tool < 2; tool++) {
@@ -609,20 +610,20 @@ public final class TurnedEdgesTest {
             for (int tool = 0; tool < 2; tool++) {
                 // A NOSE of 0 reaches the ground, one of 1 but one below the rim.
                 int deep = tool == 0 ? 10 + p : 1;
-                t.due(20 + 10 * p - deep, 308, p, tool, 5 + p);
+                t.due(20 + 10 * p - deep, 308, p, tool, 5 + 5 * p);
                 t.due(tool, 309, p, tool);
                 t.due(3 + deep, 310, p, tool, 1, 0);
                 t.due(1, 311, p, tool, 1, 0, 3 + deep);
                 t.due(0, 311, p, tool, 1, 0, 4 + deep);
-                t.due(13 + 2 * p, 311, p, tool, 1, 0, 3);
+                t.due(9 + 5 * p, 311, p, tool, 1, 0, 3);
                 t.due(1, 311, p, tool, 1, 0, 4);
             }
             t.thing(308, p, 2, 0);
             t.thing(309, p, 2);
             t.thing(310, p, 2, 1, 0);
             t.thing(311, p, 2, 1, 0, 1);
-            t.due(20 + 10 * p, 308, p, 0, 12 + 2 * p);
-            t.thing(308, p, 0, 13 + 2 * p);
+            t.due(20 + 10 * p, 308, p, 0, 8 + 5 * p);
+            t.thing(308, p, 0, 9 + 5 * p);
         }
         looks(t);
     }
