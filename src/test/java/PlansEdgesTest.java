@@ -225,6 +225,23 @@ public final class PlansEdgesTest {
         t.due(1, 702, 1, 5, 6);
         t.thing(702, 2, 5, 6);
         looks(t);
+        // A span that has no room on the one machine is none of the other one's.
+        Twins s = new Twins();
+        s.due(0, 701, 0);
+        s.due(1, 701, 1);
+        for (int i = 1; i <= 8; i++) {
+            s.due(i, 702, 1, 10 * i, 10 * i + 9);
+            s.due(i, 702, 0, 10 * i, 10 * i + 9);
+        }
+        s.state(702, 0, 18, 19);
+        s.state(702, 1, 18, 19);
+        for (int job = 0; job < 2; job++) {
+            s.due(job, 703, 0, 1);
+            s.due(job, 705, job, job, 11, 0);
+            s.due(89 + 11, 711, job);
+        }
+        s.due(0, 706, 2000);
+        looks(s);
     }
 
     // "IllegalArgumentException: due is not 0 .. 10000, or weight not 0 .. 100; IllegalStateException: there are 6."

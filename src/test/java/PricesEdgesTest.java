@@ -350,7 +350,9 @@ public final class PricesEdgesTest {
         }
         for (int[] v : new int[][] {{1, 0}, {1, -1}, {1, 10001}, {1000001, 1}, {-1000001, 1}, {2147483647, 1}, {-2147483648, 1}}) {
             t.number(803, A, v[0], v[1]);
+            t.due(0, 804, A);
             t.number(808, A, v[0], v[1]);
+            t.due(0, 804, A);
         }
         t.due(1, 805);
         t.due(0, 803, A, 1000000, 1);
