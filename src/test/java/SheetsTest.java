@@ -53,6 +53,9 @@ public final class SheetsTest {
         for (int i = 0; i < 400; i++) {
             compare(random);
         }
+        for (int i = 0; i < 60; i++) {
+            full(random);
+        }
         edges();
         desk();
         Check.end();
@@ -159,12 +162,36 @@ public final class SheetsTest {
         }
     }
 
+    /** Sheets and parts as large and many as there may be; of what is TAKEN each place is asked, as long as calls last. */
+    private static void full(Random random) {
+        TimberHouse x = new TimberHouse();
+        kerf = random.nextInt(4);
+        stages = 1 + random.nextInt(3);
+        least = 1 + random.nextInt(16);
+        Check.due(x, 1, 500, kerf, stages, least);
+        sheets.clear();
+        parts.clear();
+        for (int i = 0; i < 4; i++) {
+            int[] sheet = {9 + random.nextInt(8), 9 + random.nextInt(8), 1 + random.nextInt(300), random.nextInt(21)};
+            Check.due(x, i, 501, sheet[0], sheet[1], sheet[2], sheet[3]);
+            sheets.add(sheet);
+        }
+        int most = 3 + random.nextInt(14);
+        for (int i = 0; i < 8; i++) {
+            int[] part = {1 + random.nextInt(most), 1 + random.nextInt(most), random.nextInt(51), random.nextInt(2)};
+            Check.due(x, i, 502, part[0], part[1], part[2], part[3]);
+            parts.add(part);
+        }
+        worths(x, random);
+        runs(x);
+    }
+
     private static void worths(TimberHouse x, Random random) {
         open = parts.stream().mapToInt(p -> p[2]).toArray();
         known.clear();
         for (int i = 0; i < 6; i++) {
-            int w = 1 + random.nextInt(10);
-            int h = 1 + random.nextInt(10);
+            int w = 1 + random.nextInt(16);
+            int h = 1 + random.nextInt(16);
             int way = random.nextInt(2);
             int s = random.nextInt(4);
             Check.due(x, best(w, h, way, s).value, 504, w, h, way, s);
@@ -211,6 +238,7 @@ public final class SheetsTest {
         int area = 0;
         for (int k = 0; k < cut.size(); k++) {
             Laid laid = cut.get(k);
+            int needed = 40 + 10 * (cut.size() - k);
             int alike = 0;
             while (cut.get(alike).sheet != laid.sheet || !cut.get(alike).tree.equals(laid.tree)) {
                 alike++;
@@ -219,13 +247,13 @@ public final class SheetsTest {
             for (int what = 0; what < 8; what++) {
                 Check.due(x, due[what], 506, k, what);
             }
-            for (int i = 0; i < laid.taken.size(); i++) {
+            for (int i = 0; i < laid.taken.size() && Check.left(x) > needed + 10; i++) {
                 for (int what = 0; what < 5; what++) {
                     Check.due(x, laid.taken.get(i)[what], 507, k, i, what);
                 }
             }
             Check.due(x, Check.THING, 507, k, laid.taken.size(), 0);
-            for (int i = 0; i < laid.rests.size(); i++) {
+            for (int i = 0; i < laid.rests.size() && Check.left(x) > needed; i++) {
                 for (int what = 0; what < 4; what++) {
                     Check.due(x, laid.rests.get(i)[what], 508, k, i, what);
                 }
